@@ -101,6 +101,11 @@ public final class BoatsAndClockTest {
             due.is("3: result(1, 1, " + what + ")", x.result(1, 1, what), 0);
         }
         due.is("3: the race before is as it was", x.result(0, 1, 3), 60);
+        x.pass(60);
+        x.line(0);
+        x.line(1);
+        due.is("3: protests are numbered anew", x.hail(1, 0), 0);
+        due.is("3: a new one is hailed", x.protest(0, 3), 0);
     }
 
     private static void postpone() {

@@ -48,61 +48,52 @@ public final class HistoryTest {
         }
     }
 
-    private static void recorded(String action, RegattaTimes x, long answer) {
+    /** The picture is told before the action is. */
+    private static void recorded(String action, RegattaTimes x, String picture, long answer) {
         due.holds(action + " answers " + answer + ", no error", answer >= 0);
         due.is("20: after " + action, x.count(9), 1);
         due.is("20: undo " + action, x.undo(), 0);
+        due.holds("20: all is as before " + action, Scene.picture(x).equals(picture));
     }
 
-    private static void forget(RegattaTimes x) {
-        while (x.count(9) > 0) {
-            x.undo();
-        }
-    }
-
-    /** Fills up the history's four slots and takes them back, so that what is next is recorded alone. */
     private static void everyActionIsRecorded() {
-        RegattaTimes x = new RegattaTimes();
-        recorded("enter", x, x.enter(100));
-        recorded("pass", x, x.pass(1));
-        recorded("set to the same", x, x.set(0, 600));
-        recorded("set to 0", x, x.set(2, 0));
-        x = prepared();
-        recorded("postpone", x, x.postpone(1));
-        recorded("line", x, x.line(0));
-        recorded("retire", x, x.retire(0));
-        x = Scene.fleet(100);
-        forget(x);
-        x.enter(100);
-        forget(x);
+        RegattaTimes x = prepared();
+        recorded("pass", x, Scene.picture(x), x.pass(60));
+        recorded("postpone", x, Scene.picture(x), x.postpone(1));
+        recorded("line", x, Scene.picture(x), x.line(0));
+        recorded("retire", x, Scene.picture(x), x.retire(1));
         x = started();
-        recorded("recall", x, x.recall());
-        recorded("close", x, x.close());
-        recorded("buoy", x, x.buoy(0, 0));
-        recorded("hail", x, x.hail(0, 1));
-        recorded("accept", x, x.accept(0));
-        recorded("file", x, x.file(1));
-        recorded("decide", x, x.decide(2, true));
+        recorded("recall", x, Scene.picture(x), x.recall());
+        recorded("close", x, Scene.picture(x), x.close());
+        recorded("buoy", x, Scene.picture(x), x.buoy(0, 0));
+        recorded("hail", x, Scene.picture(x), x.hail(0, 1));
+        x = started();
+        recorded("file", x, Scene.picture(x), x.file(1));
+        recorded("accept", x, Scene.picture(x), x.accept(0));
+        recorded("decide", x, Scene.picture(x), x.decide(2, true));
+        recorded("set", x, Scene.picture(x), x.set(RegattaTimes.PENALTY, 1));
+        x = started();
+        Scene.write(x, "+5;b00;r0;l0");
+        recorded("run", x, Scene.picture(x), x.run());
         x.save();
-        recorded("restore", x, x.restore());
-        x.append('l');
-        x.append('8');
-        recorded("run", x, x.run());
-        x = Scene.fleet(100, 100);
-        x.undo();
-        x.undo();
-        x.enter(100);
-        due.is("20: prepare()", x.prepare(1, 1, 60), 0);
-        due.is("20: after prepare", x.count(9), 2);
+        recorded("restore", x, Scene.picture(x), x.restore());
+        x = new RegattaTimes();
+        recorded("enter", x, Scene.picture(x), x.enter(100));
+        recorded("set to the same", x, Scene.picture(x), x.set(RegattaTimes.FILE, 600));
+        recorded("set to 0", x, Scene.picture(x), x.set(RegattaTimes.DISCARD, 0));
+        x = withoutHistory(Scene.fleet(100, 100));
+        recorded("prepare", x, Scene.picture(x), x.prepare(1, 1, 60));
     }
 
-    /** A snapshot and its restoring bring the scene back; then one state is recorded, and taken back. */
+    /** The same state with an empty history: what is recorded after a save leads back to it. */
     private static RegattaTimes withoutHistory(RegattaTimes scene) {
         scene.save();
         for (int i = 0; i < 4; i++) {
             scene.restore();
         }
-        forget(scene);
+        while (scene.count(9) > 0) {
+            scene.undo();
+        }
         return scene;
     }
 

@@ -44,6 +44,20 @@ final class Scene {
         x.close();
     }
 
+    /** What the object tells of the clock, the settings, two boats, the latest race and its protests. */
+    static String picture(RegattaTimes x) {
+        StringBuilder picture = new StringBuilder();
+        int race = x.count(1) - 1;
+        for (int what = 0; what <= 8; what++) {
+            picture.append(x.count(what)).append(' ');
+            picture.append(x.race(race, what)).append(' ');
+            picture.append(x.result(race, 0, what)).append(' ');
+            picture.append(x.result(race, 1, what)).append(' ');
+            picture.append(x.protest(what / 3, what % 3 + 1)).append(' ');
+        }
+        return picture.append(x.boat(0, 0)).append(' ').append(x.boat(1, 0)).toString();
+    }
+
     static void write(RegattaTimes x, String text) {
         x.clearText();
         for (int i = 0; i < text.length(); i++) {

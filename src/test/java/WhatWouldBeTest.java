@@ -72,12 +72,7 @@ public final class WhatWouldBeTest {
     private static void secondsLeftAreTheGreatest() {
         for (int rating = 50; rating <= 150; rating++) {
             RegattaTimes x = Scene.sailing(97, rating);
-            x.pass(1000);
-            Scene.finish(x, 0);
-            x.undo();
-            x.undo();
-            x.undo();
-            x.pass(400);
+            x.pass(401);
             Scene.finish(x, 0);
             int least = x.result(0, 0, 6);
             int left = x.secondsLeft(1);
@@ -195,6 +190,7 @@ public final class WhatWouldBeTest {
         RegattaTimes x = Scene.fleet(100, 100, 100);
         due.is("32: no race", x.mean(0), 0.0f);
         Scene.sail(x, 0, 1, 2);
+        due.is("32: one race", x.mean(2), 3.0f);
         Scene.sail(x, 1, 0, 2);
         due.is("32: two races", x.mean(0), 1.5f);
         Scene.sail(x, 0, 1);
