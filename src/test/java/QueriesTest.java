@@ -12,6 +12,7 @@ public final class QueriesTest {
         discardsAfterUndo();
         ranksByTotal();
         ranksByPlaces();
+        ranksByThePlaceNine();
         ranksByTheLastRace();
         race();
         raceLeader();
@@ -212,6 +213,18 @@ public final class QueriesTest {
         due.is("24: places 1 of 0", z.boat(0, 4), 2);
         due.is("24: places 1 of 1", z.boat(1, 4), 2);
         order("the place 2 that is left out counts", z, 0, 1);
+    }
+
+    /** Boats 0 and 1 both leave out all but a place 1; the place 9 of 1 counts before the last race. */
+    private static void ranksByThePlaceNine() {
+        RegattaTimes x = Scene.fleet(100, 100, 100, 100, 100, 100, 100, 100, 100);
+        x.set(RegattaTimes.DISCARD, 2);
+        Scene.sail(x, 1, 2, 3, 4, 5, 6, 7, 8);
+        Scene.sail(x, 0, 2, 3, 4, 5, 6, 7, 8, 1);
+        due.is("23: place 9", x.result(1, 1, 7), 9);
+        due.is("24: total of 0", x.boat(0, 1), 1);
+        due.is("24: total of 1", x.boat(1, 1), 1);
+        order("the place 9", x, 1, 0);
     }
 
     private static void ranksByTheLastRace() {
