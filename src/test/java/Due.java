@@ -27,6 +27,18 @@ final class Due {
         }
     }
 
+    /** What the call answers after the story. */
+    void is(String what, Story story, Story.Call call, double want) {
+        double got = story.answer(call);
+        holds(what + " answered " + got + ", due is " + want, Double.compare(got, want) == 0);
+    }
+
+    /** What the call answers, and that it changes nothing, as far as any later call could tell. */
+    void unchanged(String what, Story story, Story.Call call, double want) {
+        is(what, story, call, want);
+        holds(what + " changes nothing", story.and(x -> call.on(x)).all().equals(story.all()));
+    }
+
     /** Ends the test, with exit code 1 if an answer was wrong. */
     void end() {
         System.out.println(asked + " answers asked, " + wrong + " not as due");
