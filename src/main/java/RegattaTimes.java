@@ -1008,10 +1008,15 @@ public final class RegattaTimes {
         }
 
         void hold(State state) {
-            State slot = slots[held];
+            State slot = slot(held);
             if (slot != null) {
                 slot.copyFrom(state);
             }
+        }
+
+        /** Null if there is no such slot. */
+        private State slot(int at) {
+            return at >= 0 && at < slots.length ? slots[at] : null;
         }
 
         /** Records the state that is held, unless the action's answer is an error code. */
@@ -1029,7 +1034,7 @@ public final class RegattaTimes {
             }
             held = held > 0 ? held - 1 : SLOTS - 1;
             size--;
-            State slot = slots[held];
+            State slot = slot(held);
             if (slot != null) {
                 state.copyFrom(slot);
             }

@@ -1,12 +1,19 @@
+import com.sun.source.tree.ArrayAccessTree;
 import com.sun.source.tree.BinaryTree;
 import com.sun.source.tree.ClassTree;
 import com.sun.source.tree.CompilationUnitTree;
+import com.sun.source.tree.CompoundAssignmentTree;
+import com.sun.source.tree.ExpressionTree;
 import com.sun.source.tree.LineMap;
+import com.sun.source.tree.LiteralTree;
+import com.sun.source.tree.MemberSelectTree;
 import com.sun.source.tree.MethodInvocationTree;
 import com.sun.source.tree.MethodTree;
 import com.sun.source.tree.NewArrayTree;
 import com.sun.source.tree.NewClassTree;
+import com.sun.source.tree.ParenthesizedTree;
 import com.sun.source.tree.Tree;
+import com.sun.source.tree.TypeCastTree;
 import com.sun.source.tree.VariableTree;
 import com.sun.source.util.JavacTask;
 import com.sun.source.util.TreePath;
@@ -39,10 +46,16 @@ public final class LanguageTest extends TreePathScanner<Void, Void> {
     private static final Set<Tree.Kind> UNUSED = Set.of(Tree.Kind.LAMBDA_EXPRESSION, Tree.Kind.MEMBER_REFERENCE,
             Tree.Kind.TRY, Tree.Kind.THROW, Tree.Kind.SYNCHRONIZED, Tree.Kind.ASSERT, Tree.Kind.WHILE_LOOP,
             Tree.Kind.DO_WHILE_LOOP, Tree.Kind.INSTANCE_OF, Tree.Kind.IMPORT, Tree.Kind.PACKAGE);
+    private static final Set<Tree.Kind> COMPARISONS = Set.of(Tree.Kind.LESS_THAN, Tree.Kind.LESS_THAN_EQUAL,
+            Tree.Kind.GREATER_THAN, Tree.Kind.GREATER_THAN_EQUAL);
+    private static final Set<Tree.Kind> DIVISIONS = Set.of(Tree.Kind.DIVIDE, Tree.Kind.REMAINDER,
+            Tree.Kind.DIVIDE_ASSIGNMENT, Tree.Kind.REMAINDER_ASSIGNMENT);
 
     private final Trees trees;
     private final CompilationUnitTree unit;
     private final Map<Element, Set<Element>> calls = new HashMap<>();
+    // What was compared with something, so far, in the method that is looked at.
+    private final Set<String> compared = new HashSet<>();
     private int classes = 0;
 
     private LanguageTest(Trees trees, CompilationUnitTree unit) {
@@ -138,6 +151,7 @@ public final class LanguageTest extends TreePathScanner<Void, Void> {
         due.holds("rule 11: " + tree.getName() + " has at most sixty lines", last - first < 60);
         due.holds("rule 11: " + tree.getName() + " has at most seven parameters", tree.getParameters().size() <= 7);
         calls.putIfAbsent(trees.getElement(getCurrentPath()), new HashSet<>());
+        compared.clear();
         return super.visitMethod(tree, nothing);
     }
 
@@ -151,6 +165,9 @@ public final class LanguageTest extends TreePathScanner<Void, Void> {
             due.holds("rule 4, " + at(tree) + ": " + owner + "." + called,
                     owner.startsWith("RegattaTimes") || LIBRARY.contains(owner + "." + called));
             calls.computeIfAbsent(method(), m -> new HashSet<>()).add(called);
+        }
+        if (called.getSimpleName().contentEquals("charAt")) {
+            looksAt("an index", false, tree.getArguments().get(0));
         }
         return super.visitMethodInvocation(tree, nothing);
     }
@@ -174,6 +191,49 @@ public final class LanguageTest extends TreePathScanner<Void, Void> {
         boolean isText = tree.getKind() == Tree.Kind.PLUS
                 && trees.getTypeMirror(getCurrentPath()).toString().equals("java.lang.String");
         due.holds("rule 10, " + at(tree) + ": no text is joined by +", !isText);
+        if (DIVISIONS.contains(tree.getKind())) {
+            looksAt("a divisor", true, tree.getRightOperand());
+        }
+        if (COMPARISONS.contains(tree.getKind())) {
+            compared.add(bare(tree.getLeftOperand()).toString());
+            compared.add(bare(tree.getRightOperand()).toString());
+        }
         return super.visitBinary(tree, nothing);
+    }
+
+    @Override
+    public Void visitCompoundAssignment(CompoundAssignmentTree tree, Void nothing) {
+        if (DIVISIONS.contains(tree.getKind())) {
+            looksAt("a divisor", true, tree.getExpression());
+        }
+        return super.visitCompoundAssignment(tree, nothing);
+    }
+
+    @Override
+    public Void visitArrayAccess(ArrayAccessTree tree, Void nothing) {
+        looksAt("an index", false, tree.getIndex());
+        return super.visitArrayAccess(tree, nothing);
+    }
+
+    @Override
+    public Void visitMemberSelect(MemberSelectTree tree, Void nothing) {
+        due.holds("rule 7, " + at(tree) + ": what stands in an array is looked at before it is used",
+                tree.getExpression().getKind() != Tree.Kind.ARRAY_ACCESS);
+        return super.visitMemberSelect(tree, nothing);
+    }
+
+    /** That it was compared earlier in the same method, or may be a number other than 0 and is one. */
+    private void looksAt(String what, boolean mayBeNumber, ExpressionTree used) {
+        ExpressionTree bare = bare(used);
+        boolean isNumber = bare instanceof LiteralTree && !((LiteralTree) bare).getValue().equals(0);
+        due.holds("rule 7, " + at(used) + ": " + what + " is looked at before it is used: " + bare,
+                mayBeNumber && isNumber || compared.contains(bare.toString()));
+    }
+
+    private static ExpressionTree bare(ExpressionTree tree) {
+        if (tree instanceof ParenthesizedTree) {
+            return bare(((ParenthesizedTree) tree).getExpression());
+        }
+        return tree instanceof TypeCastTree ? bare(((TypeCastTree) tree).getExpression()) : tree;
     }
 }
